@@ -267,7 +267,13 @@ public final class NobodyBreathes {
         int found = NONE;
         for (int s = 0; s < piece.last; s++) {
             for (int i = 0; i < size; i++) {
-                long would = best > 0 && course.canSpare(i, s) ? course.badWith(i, s) : best;
+                if (best == 0 || !course.breathesBehind(i, s)) {
+                    continue;
+                }
+                long told = course.plan[i];
+                course.plan[i] = told | (1L << s);
+                long would = course.badOfAll();
+                course.plan[i] = told;
                 if (would < best) {
                     best = would;
                     found = 100 * i + s;
@@ -691,29 +697,20 @@ public final class NobodyBreathes {
         static final int STACK = 5 * (OPEN + 1) + 2;
 
         final int[] code;
-        final int mayFrom;
-        final int thinFrom;
+        final int[] ends;
         final int[] stack = new int[STACK];
 
-        Text(int[] code, int mayFrom, int thinFrom) {
+        Text(int[] code, int[] ends) {
             this.code = code;
-            this.mayFrom = mayFrom;
-            this.thinFrom = thinFrom;
+            this.ends = ends;
         }
 
-        boolean must(int[] heard) {
-            return valueOf(0, mayFrom, heard) != 0;
-        }
-
-        boolean may(int[] heard) {
-            return valueOf(mayFrom, thinFrom, heard) != 0;
-        }
-
-        int thin(int[] heard) {
-            return Math.max(0, Math.min(99, valueOf(thinFrom, code.length, heard)));
-        }
-
-        private int valueOf(int from, int to, int[] heard) {
+        int valueOf(int part, int[] heard) {
+            if (outside(part, ends.length)) {
+                return 0;
+            }
+            int from = part == 0 ? 0 : ends[part - 1];
+            int to = ends[part];
             int top = 0;
             for (int at = from; at < to && at < code.length; at++) {
                 int what = code[at] % Reader.VALUES;
@@ -738,10 +735,10 @@ public final class NobodyBreathes {
 
         private static int joined(int what, int left, int right) {
             switch (what) {
-                case Reader.OR: return truth(left != 0 || right != 0);
-                case Reader.AND: return truth(left != 0 && right != 0);
-                case '<': return truth(left < right);
-                case '=': return truth(left == right);
+                case Reader.OR: return left != 0 || right != 0 ? 1 : 0;
+                case Reader.AND: return left != 0 && right != 0 ? 1 : 0;
+                case '<': return left < right ? 1 : 0;
+                case '=': return left == right ? 1 : 0;
                 case '+': return left + right;
                 case '-': return left - right;
                 default: return left * right;
@@ -751,7 +748,8 @@ public final class NobodyBreathes {
 
     /** THE TAPE, and who reads a TEXT from it. */
     private static final class Reader {
-        static final int MUST = 0, MAY = 1, THIN = 2, OR = 3, AND = 4, NOT = 5, NAME = 6;
+        /** KEYS are numbered as they stand in WORDS, those of the parts first; all behind them are NAMES. */
+        static final int MUST = 0, MAY = 1, THIN = 2, PARTS = 3, OR = 3, AND = 4, NOT = 5, NAME = 6;
         static final int NUMBER = 7, MINUS = 8, END = 9, NO_TOKEN = 10;
         /** A place of a Text's code holds one of these, or a sign, and so many times a value. */
         static final int VALUES = 64;
@@ -784,22 +782,14 @@ public final class NobodyBreathes {
             next = 0;
             length = 0;
             advance();
-            if (!part(MUST)) {
-                return null;
+            int[] ends = new int[PARTS];
+            for (int key = 0; key < PARTS; key++) {
+                if (!pass(key) || !either(0) || !pass(';')) {
+                    return null;
+                }
+                ends[key] = length;
             }
-            int mayFrom = length;
-            if (!part(MAY)) {
-                return null;
-            }
-            int thinFrom = length;
-            if (!part(THIN) || token != END) {
-                return null;
-            }
-            return new Text(Arrays.copyOf(code, length), mayFrom, thinFrom);
-        }
-
-        private boolean part(int key) {
-            return pass(key) && either(0) && pass(';');
+            return token == END ? new Text(Arrays.copyOf(code, length), ends) : null;
         }
 
         private boolean either(int open) {
@@ -1057,7 +1047,8 @@ public final class NobodyBreathes {
             heard[Text.SINGING] = others;
             heard[Text.BESIDE] = beside;
             heard[Text.TIRED] = often[i];
-            return rule.must(heard) || (others >= piece.least[voice] && beside == 0 && rule.may(heard));
+            return rule.valueOf(Reader.MUST, heard) != 0
+                    || (others >= piece.least[voice] && beside == 0 && rule.valueOf(Reader.MAY, heard) != 0);
         }
 
         private boolean isSilent(int i) {
@@ -1125,7 +1116,7 @@ public final class NobodyBreathes {
         void weigh() {
             for (int s = 0; s < piece.last; s++) {
                 listen(s, piece.loud[s]);
-                worth[s] = rule.thin(heard);
+                worth[s] = Math.max(0, Math.min(99, rule.valueOf(Reader.THIN, heard)));
             }
         }
 
@@ -1143,17 +1134,9 @@ public final class NobodyBreathes {
             return sum;
         }
 
-        /** A breath more that takes no later one away makes nothing less thin. */
-        boolean canSpare(int singer, int step) {
+        /** Only a breath more that comes ahead of a told one can make anything less thin: by taking that one away. */
+        boolean breathesBehind(int singer, int step) {
             return (plan[singer] >> step) > 1L;
-        }
-
-        long badWith(int singer, int step) {
-            long own = plan[singer];
-            plan[singer] = own | (1L << step);
-            long sum = badOfAll();
-            plan[singer] = own;
-            return sum;
         }
     }
 }
