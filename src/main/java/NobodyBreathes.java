@@ -270,10 +270,10 @@ public final class NobodyBreathes {
                 if (best == 0 || !course.breathesBehind(i, s)) {
                     continue;
                 }
-                long told = course.plan[i];
-                course.plan[i] = told | (1L << s);
+                long own = course.plan[i];
+                course.plan[i] = own | (1L << s);
                 long would = course.badOfAll();
-                course.plan[i] = told;
+                course.plan[i] = own;
                 if (would < best) {
                     best = would;
                     found = 100 * i + s;

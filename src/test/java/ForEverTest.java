@@ -11,6 +11,7 @@ public final class ForEverTest {
         lost();
         lostIsHeard();
         who();
+        whoAtEdges();
         whoOfLikeOnes();
         imageAndBack();
         imageOfVoices();
@@ -65,6 +66,23 @@ public final class ForEverTest {
         z.singer(0, 939, 0);
         z.singer(0, 138, 0);
         round(z, 6, 0, NONE, NONE);
+        NobodyBreathes last = new NobodyBreathes();
+        last.singer(0, 333, 3);
+        last.singer(3, 739, 5);
+        round(last, 6, 9, 199, 172);
+        NobodyBreathes beyond = new NobodyBreathes();
+        beyond.singer(0, 107, 0);
+        beyond.singer(0, 124, 0);
+        // every 8 and every 25 steps: 200 is no step of these
+        round(beyond, 6, 0, NONE, NONE);
+        for (int slow = 0; slow < 10; slow++) {
+            NobodyBreathes ten = new NobodyBreathes();
+            for (int i = 0; i < 10; i++) {
+                ten.singer(0, i == slow ? 204 : 102, 0);
+            }
+            // 1 on end and 1 silent; 3 on end and 2 silent
+            round(ten, 6, 1, 10, 0);
+        }
         int[][] calls = {{-1, 0, 0}, {1, 0, 0}, {2, 0, 0}, {5, 0, 0}, {7, 0, 0}, {0, -1, 0}, {0, 10, 0}, {6, 0, -1}, {6, 0, 2}};
         for (int[] c : calls) {
             Due.is("round(" + c[0] + "," + c[1] + "," + c[2] + ")", x.round(c[0], c[1], c[2]), BAD);
@@ -175,6 +193,28 @@ public final class ForEverTest {
         y.set(3, 0, 9);
         Due.plan(y, 0, 0, 10);
         Due.is("nobody", y.who(0), NONE);
+    }
+
+    private static void whoAtEdges() {
+        NobodyBreathes x = new NobodyBreathes();
+        for (int i = 0; i < 10; i++) {
+            x.singer(0, i % 4 * 1000 + 540, 0);
+        }
+        x.set(3, 1, 3);
+        Due.rule(x, "must 0 ; may 0 ; thin step ;");
+        Due.plan(x, 0, 9, 4);
+        Due.is("the last singer, in the first step", x.bad(2), 4 + 5 + 6 + 7 + 8);
+        Due.is("the last singer, in the first step", x.who(0), 900);
+        Due.plan(x, 0, 9, 23);
+        Due.is("the last step", x.bad(2), 23);
+        Due.is("none is less than one step", x.who(0), NONE);
+        NobodyBreathes y = new NobodyBreathes();
+        y.singer(0, 240, 0);
+        y.set(3, 0, 1);
+        Due.rule(y, "must 0 ; may 0 ; thin step = 11 ;");
+        Due.plan(y, 0, 0, 10);
+        Due.is("from 1 to 0", y.bad(2), 1);
+        Due.is("from 1 to 0", y.who(0), 9);
     }
 
     private static void whoOfLikeOnes() {

@@ -8,6 +8,8 @@ public final class TextTest {
         faults();
         openOnes();
         goodOnes();
+        fullTape();
+        deep();
         manyTexts();
         force();
         worth();
@@ -63,6 +65,10 @@ public final class TextTest {
         fault("must heldx ;", 5);
         fault("must singingg ;", 5);
         fault("must a ;", 5);
+        fault("must xeld ;", 5);
+        fault("must heldz ;", 5);
+        fault("must z ;", 5);
+        fault("oust 0 ;", 0);
         fault("must ? ;", 5);
         fault("must\t0 ;", 4);
         fault("must 0\r;", 6);
@@ -124,6 +130,34 @@ public final class TextTest {
         good("must0;may8<held;thin1;");
         good("  \n must\n0 ;may 9999;thin 0000 ;\n ");
         good("must held + loud + step ; may singing * beside ; thin tired ;");
+    }
+
+    /** What stands at the very end of a full tape. */
+    private static void fullTape() {
+        String start = "must 0 ; may 0 ; thin 0";
+        good(start + " ".repeat(160 - start.length() - 1) + ";");
+        good(start + ";" + " ".repeat(160 - start.length() - 1));
+        good("must" + "\n".repeat(160 - PLAIN.length()) + PLAIN.substring(4));
+        fault(start + " ".repeat(160 - start.length()), 160);
+        fault(start + ";" + " ".repeat(160 - start.length() - 5) + "held", 156);
+        fault(start + ";" + " ".repeat(160 - start.length() - 5) + "1234", 156);
+        fault("must " + "1234+".repeat(30) + "12345", 155);
+        fault("must " + "1234+".repeat(30) + "     ", 160);
+        fault("must " + "held+".repeat(30) + "heldd", 155);
+        fault("a".repeat(160), 0);
+        fault("1".repeat(160), 0);
+        good("must 1" + "+1".repeat(66) + ";may 0;thin 0;      ");
+    }
+
+    private static void deep() {
+        String level = "0or 1and 1<1+1*(";
+        for (int inner = 0; inner < 2; inner++) {
+            worth("0or 1and 1<1+1*" + inner, inner);
+            worth(level + "0or 1and 1<1+1*" + inner + ")", inner);
+            worth(level.repeat(5) + "0or 1and 1<1+1*" + inner + ")))))", inner);
+        }
+        worth("1" + "+1".repeat(60), 61);
+        worth("step" + "+loud".repeat(20), 60);
     }
 
     private static void manyTexts() {

@@ -18,6 +18,7 @@ public final class WaysTest {
         sideBySide();
         heard();
         sounds();
+        ten();
         firstThing();
         bad();
         breaths();
@@ -239,6 +240,29 @@ public final class WaysTest {
         Due.is("one of the four breathes", x.wrong(2), NONE);
         x.set(4, 0, 2);
         Due.is("beyond last", x.wrong(6), NONE);
+        NobodyBreathes y = new NobodyBreathes();
+        y.singer(0, 140, 2);
+        y.set(2, 0, 1);
+        Due.is("the first alone says it", y.wrong(6), NONE);
+        y.singer(0, 140, 2);
+        y.singer(0, 140, 2);
+        y.singer(0, 140, 2);
+        Due.is("the first of four", y.wrong(6), 400);
+    }
+
+    private static void ten() {
+        NobodyBreathes x = choir(140, 140, 140, 140, 140, 140, 140, 140, 1140, 1140);
+        sings(x, 0, 1023, 1023, 1023, 1023, 1023, 1023, 1023, 1023, 1023, 0, 1023);
+        sings(x, 6, 1023, 1023);
+        Due.is("of 0", x.of(0, 0, 0), 8);
+        Due.is("of 1", x.of(0, 0, 1), 2);
+        Due.is("all begin one twice", x.breaths(0, NONE), 20);
+        Due.is("side by side", x.wrong(0), 9200);
+        Due.plan(x, 0, 9, 5, 8, 5);
+        Due.is("the last two", x.wrong(2), 5208);
+        sings(x, 2, 1023, 1023, 1023, 1023, 1023, 255, 1023);
+        x.set(3, 1, 2);
+        Due.is("bad", x.bad(2), 2);
     }
 
     private static void firstThing() {
