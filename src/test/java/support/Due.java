@@ -1,14 +1,20 @@
 /** Counts answers that are not the ones that are due. */
 final class Due {
     private static int wrong = 0;
+    private static String name = "";
 
     private Due() {
+    }
+
+    /** What stands ahead of each call that is told from here on. */
+    static void named(String newName) {
+        name = newName;
     }
 
     static void is(String call, long got, long want) {
         if (got != want) {
             wrong++;
-            System.out.println(call + " answered " + got + ", due is " + want);
+            System.out.println(name + call + " answered " + got + ", due is " + want);
         }
     }
 
